@@ -562,13 +562,15 @@ public final class ThirstHours {
             }
         }
 
+        /** In one piece, as it is called the most and the deepest. */
         int worth(int base, int hot, int kind, int shown) {
             int top = 0;
             for (int i = 0; i < length; i++) {
                 int code = codes[i];
                 if (code >= SHOWN) {
                     if (top < DEEPEST) {
-                        stack[top] = code >= 0 ? code : fact(code, base, hot, kind, shown);
+                        stack[top] = code >= 0 ? code : code == BASE ? base
+                                : code == HOT ? hot : code == KIND ? kind : shown;
                         top++;
                     }
                 } else if (code == NOT) {
@@ -577,31 +579,22 @@ public final class ThirstHours {
                     }
                 } else if (top >= 2) {
                     top--;
-                    stack[top - 1] = joined(code, stack[top - 1], stack[top]);
+                    int left = stack[top - 1];
+                    int right = stack[top];
+                    int joined;
+                    switch (code) {
+                        case AND: joined = left != 0 && right != 0 ? 1 : 0; break;
+                        case OR: joined = left != 0 || right != 0 ? 1 : 0; break;
+                        case LESS: joined = left < right ? 1 : 0; break;
+                        case SAME: joined = left == right ? 1 : 0; break;
+                        case PLUS: joined = left + right; break;
+                        case MINUS: joined = left - right; break;
+                        default: joined = left * right; break;
+                    }
+                    stack[top - 1] = joined;
                 }
             }
             return stack[0];
-        }
-
-        private static int fact(int code, int base, int hot, int kind, int shown) {
-            switch (code) {
-                case BASE: return base;
-                case HOT: return hot;
-                case KIND: return kind;
-                default: return shown;
-            }
-        }
-
-        private static int joined(int code, int left, int right) {
-            switch (code) {
-                case AND: return left != 0 && right != 0 ? 1 : 0;
-                case OR: return left != 0 || right != 0 ? 1 : 0;
-                case LESS: return left < right ? 1 : 0;
-                case SAME: return left == right ? 1 : 0;
-                case PLUS: return left + right;
-                case MINUS: return left - right;
-                default: return left * right;
-            }
         }
     }
 
@@ -854,7 +847,10 @@ public final class ThirstHours {
             if (!isPerson(person) || !isPlace(place) || step(s.where[person], place) == 0) {
                 return false;
             }
-            passHours(s, step(s.where[person], place));
+            int many = step(s.where[person], place);
+            for (int i = 0; i < many; i++) {
+                passHour(s);
+            }
             s.where[person] = place;
             return true;
         }
@@ -1078,18 +1074,6 @@ public final class ThirstHours {
             return NONE;
         }
 
-        private boolean toldPlace() {
-            return toldName(Post.PLACE_NAMES, post.places);
-        }
-
-        private boolean toldClock() {
-            return toldName(Post.CLOCK_NAMES, post.clocks);
-        }
-
-        private boolean toldPerson() {
-            return toldName(Post.PERSON_NAMES, post.people);
-        }
-
         private boolean kindOfClock() {
             int kind = tape.word == Word.PLAIN ? 0 : tape.word == Word.OLD ? OLD
                     : tape.word == Word.MILK ? MILK : tape.word == Word.DEW ? DEW : NONE;
@@ -1140,7 +1124,7 @@ public final class ThirstHours {
 
         private boolean wayLine() {
             tape.advance();
-            if (!toldPlace()) {
+            if (!toldName(Post.PLACE_NAMES, post.places)) {
                 return false;
             }
             int from = found;
@@ -1181,7 +1165,7 @@ public final class ThirstHours {
                 return false;
             }
             post.kinds[c] = found;
-            if (!word(Word.AT) || !toldPlace()) {
+            if (!word(Word.AT) || !toldName(Post.PLACE_NAMES, post.places)) {
                 return false;
             }
             post.sites[c] = found;
@@ -1207,7 +1191,7 @@ public final class ThirstHours {
                 return wrong(TOO_MANY);
             }
             tape.advance();
-            if (!newName(Post.PERSON_NAMES + p) || !word(Word.AT) || !toldPlace()) {
+            if (!newName(Post.PERSON_NAMES + p) || !word(Word.AT) || !toldName(Post.PLACE_NAMES, post.places)) {
                 return false;
             }
             post.first.where[p] = found;
@@ -1229,11 +1213,11 @@ public final class ThirstHours {
                 return wrong(TOO_MANY);
             }
             tape.advance();
-            if (!newName(Post.WORK_NAMES + w) || !word(Word.BY) || !toldPerson()) {
+            if (!newName(Post.WORK_NAMES + w) || !word(Word.BY) || !toldName(Post.PERSON_NAMES, post.people)) {
                 return false;
             }
             post.doers[w] = found;
-            if (!word(Word.CLOCK) || !toldClock()) {
+            if (!word(Word.CLOCK) || !toldName(Post.CLOCK_NAMES, post.clocks)) {
                 return false;
             }
             post.timers[w] = found;
@@ -1391,7 +1375,7 @@ public final class ThirstHours {
             if (begins == Word.STEAL) {
                 return stealLine();
             }
-            if (!toldPerson()) {
+            if (!toldName(Post.PERSON_NAMES, post.people)) {
                 return false;
             }
             int who = found;
@@ -1410,7 +1394,7 @@ public final class ThirstHours {
         }
 
         private boolean stealLine() {
-            if (!toldClock()) {
+            if (!toldName(Post.CLOCK_NAMES, post.clocks)) {
                 return false;
             }
             int clock = found;
@@ -1422,7 +1406,7 @@ public final class ThirstHours {
         }
 
         private boolean pourLine(int who) {
-            if (!toldClock()) {
+            if (!toldName(Post.CLOCK_NAMES, post.clocks)) {
                 return false;
             }
             int clock = found;
@@ -1442,7 +1426,7 @@ public final class ThirstHours {
         }
 
         private boolean goLine(int who) {
-            if (!toldPlace()) {
+            if (!toldName(Post.PLACE_NAMES, post.places)) {
                 return false;
             }
             days.add(Days.GO, who, found, 0);
@@ -1596,10 +1580,19 @@ public final class ThirstHours {
                 post.passHour(trial);
                 bits = post.badWorks(trial) & ~known;
                 if (firstAlone && bits != 0) {
-                    return Integer.numberOfTrailingZeros(bits);
+                    return lowestBit(bits);
                 }
             }
             return firstAlone ? NONE : bits;
+        }
+
+        private static int lowestBit(int bits) {
+            for (int i = 0; i < MOST_WORKS; i++) {
+                if ((bits >> i & 1) == 1) {
+                    return i;
+                }
+            }
+            return NONE;
         }
 
         /** Ways in which just so many legs take two hours, of 10 to the power of the legs. */
