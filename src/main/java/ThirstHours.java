@@ -1373,14 +1373,14 @@ public final class ThirstHours {
                 return hourLine();
             }
             if (begins == Word.STEAL) {
-                return stealLine();
+                return clockDeed(Days.STEAL, NONE);
             }
             if (!toldName(Post.PERSON_NAMES, post.people)) {
                 return false;
             }
             int who = found;
             if (begins == Word.POUR) {
-                return pourLine(who);
+                return clockDeed(Days.POUR, who);
             }
             return begins == Word.DRAW ? drawLine(who) : goLine(who);
         }
@@ -1393,7 +1393,8 @@ public final class ThirstHours {
             return sign(';');
         }
 
-        private boolean stealLine() {
+        /** Behind steal the CLOCK comes first, behind pour it comes second: the rest is the same. */
+        private boolean clockDeed(int deed, int who) {
             if (!toldName(Post.CLOCK_NAMES, post.clocks)) {
                 return false;
             }
@@ -1401,19 +1402,7 @@ public final class ThirstHours {
             if (!number(1, MOST_SIPS)) {
                 return false;
             }
-            days.add(Days.STEAL, NONE, clock, found);
-            return sign(';');
-        }
-
-        private boolean pourLine(int who) {
-            if (!toldName(Post.CLOCK_NAMES, post.clocks)) {
-                return false;
-            }
-            int clock = found;
-            if (!number(1, MOST_SIPS)) {
-                return false;
-            }
-            days.add(Days.POUR, who, clock, found);
+            days.add(deed, who, clock, found);
             return sign(';');
         }
 
@@ -1648,7 +1637,7 @@ public final class ThirstHours {
             for (int i = 0; i <= MOST_SIPS && left < most; i++) {
                 robbed.copyClock(trial, clock);
                 robbed.has[clock] = left;
-                int alike = 1 + Math.min(goRobbed(post, clock, many), most - left - 1);
+                int alike = 1 + Math.min(goRobbed(post, clock, shown, many), most - left - 1);
                 if (robbed.shown[clock] == shown && robbed.still[clock] == 1) {
                     found += alike;
                 }
@@ -1658,13 +1647,13 @@ public final class ThirstHours {
         }
 
         /**
-         * The robbed CLOCK goes to the last hour; how many sips more it could have had and yet
-         * gone and stood still in just the same hours.
+         * The robbed CLOCK goes to the last hour, or till it shows too much; how many sips more it
+         * could have had and yet gone and stood still in just the same hours.
          */
-        private int goRobbed(Post post, int clock, int many) {
+        private int goRobbed(Post post, int clock, int shown, int many) {
             int spare = MOST_SIPS;
             int from = robbed.hour;
-            for (int h = from; h < many; h++) {
+            for (int h = from; h < many && robbed.shown[clock] <= shown; h++) {
                 post.gatherDew(robbed, clock);
                 int thirst = post.thirst(clock, h, robbed.shown[clock]);
                 if (robbed.has[clock] < thirst) {
