@@ -116,5 +116,11 @@ public final class AheadTest {
                 + "work u by e clock k hour 3 pays 1;work v by e clock k hour 3 pays 1;");
         CHECK.dueRow("late", new int[] {x.late(2, 0), x.late(3, 0), x.late(9, 0), x.late(9, -1), x.late(4, -1)},
                 -1, 2, 2, 15, 14);
+        x.hours(4);
+        CHECK.dueRow("late", new int[] {x.late(9, 0), x.late(9, -1)}, 0, 1);
+        ThirstHours y = CHECK.withPost("place a well 0;clock k plain at a holds 9 has 9 sips 0;person e at a sips 1 has 0;"
+                + "work p by e clock k hour 2 pays 1;work q by e clock k hour 2 pays 1;work r by e clock k hour 2 pays 1;"
+                + "work s by e clock k hour 2 pays 1;work t by e clock k hour 2 pays 1;work u by e clock k hour 1 pays 1;");
+        CHECK.dueRow("late", new int[] {y.late(1, 0), y.late(2, 0), y.late(1, -1), y.late(2, -1)}, 5, 5, 32, 63);
     }
 }

@@ -77,6 +77,8 @@ public final class CaravanTest {
         caravan(clock("milk", ""), 4, 0, 1, 7);
         caravan(clock("plain", "thirst shown;"), 6, 0, 1, 15);
         caravan(clock("milk", "thirst shown*2;"), 6, 0, 1, 0 + 0 + 1 + 1 + 2 + 2);
+        caravan(clock("plain", "thirst shown;"), 3, 10, 1000000, 15);
+        caravan(clock("plain", "thirst shown;"), 3, 5, 1000000, 15);
         caravan(clock("plain", "thirst 500;"), 12, 10, 1, 24 * 99);
     }
 

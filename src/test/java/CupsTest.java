@@ -93,7 +93,7 @@ public final class CupsTest {
             cups(x, holds, 1, -1, -1);
         }
         for (int hours : new int[] {0, -1, 100, Integer.MIN_VALUE, Integer.MAX_VALUE}) {
-            cups(x, 1, hours, -1, -1);
+            cups(x, 9999, hours, -1, -1);
         }
         for (int what : new int[] {-1, 2, Integer.MIN_VALUE, Integer.MAX_VALUE}) {
             CHECK.due("cups(9, 1, " + what + ")", x.cups(9, 1, what), -1);

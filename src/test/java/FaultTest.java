@@ -214,6 +214,10 @@ public final class FaultTest {
         thirst(5, "(((((^(1))))))");
         thirst(5, "(((((^not 1)))))");
         thirst(5, "(((((^base)))))");
+        thirst(5, "1+(((((^1)))))");
+        thirst(5, "1*(((((^1)))))");
+        thirst(5, "1<(((((^1)))))");
+        thirst(5, "1 and (((((^1)))))");
         thirst(1, "(((((^)))))");
         thirst(1, "(((((^*)))))");
         good("thirst not not not not 1;");

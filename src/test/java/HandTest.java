@@ -40,6 +40,12 @@ public final class HandTest {
         }
         CHECK.due("what can be undone", x.count(11), 2);
         CHECK.due("sips in all", x.count(13), 950 + 28 + 540);
+        ThirstHours most = CHECK.withPost("place a well 1998;clock k plain at a holds 999 has 0 sips 0;"
+                + "person e at a sips 0 has 0;");
+        CHECK.due("draw 999", most.draw(0, 999), 999);
+        CHECK.due("pour 999", most.pour(0, 0, 999), 999);
+        CHECK.due("draw 999", most.draw(0, 999), 999);
+        CHECK.due("the well", most.well(0), 0);
     }
 
     private static void pouring() {

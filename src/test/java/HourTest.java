@@ -9,6 +9,7 @@ public final class HourTest {
         dew();
         people();
         works();
+        severalDry();
         shownInThirst();
         manyHours();
         others();
@@ -95,6 +96,19 @@ public final class HourTest {
         }
         CHECK.due("in time", x.count(6), 3);
         CHECK.due("paid", x.count(7), 4 + 50 + 16);
+    }
+
+    /** Each work looks at its own PERSON alone. */
+    private static void severalDry() {
+        ThirstHours x = CHECK.withPost("place a well 0;clock c plain at a holds 9 has 9 sips 0;"
+                + "person e at a sips 1 has 0;person f at a sips 1 has 9;person g at a sips 2 has 1;person h at a sips 9 has 9;"
+                + "work u by e clock c hour 1 pays 1;work v by f clock c hour 1 pays 2;work w by g clock c hour 1 pays 4;"
+                + "work x by h clock c hour 1 pays 8;work y by h clock c hour 2 pays 16;work z by f clock c hour 2 pays 32;");
+        x.hours(2);
+        CHECK.dueRow("works", new int[] {x.work(0, 4), x.work(1, 4), x.work(2, 4), x.work(3, 4), x.work(4, 4), x.work(5, 4)},
+                3, 1, 3, 1, 3, 1);
+        CHECK.dueRow("DRY", new int[] {x.person(0, 3), x.person(1, 3), x.person(2, 3), x.person(3, 3)}, 2, 0, 2, 1);
+        CHECK.due("paid", x.count(7), 42);
     }
 
     /** A thirst that grows with what is shown; CLOCKS do not see one another. */

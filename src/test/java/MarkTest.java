@@ -8,6 +8,7 @@ public final class MarkTest {
     public static void main(String[] args) {
         layAndGoBack();
         holdsAll();
+        holdsWhatIsHeard();
         fourOfThem();
         wrongOnes();
         counts();
@@ -62,6 +63,7 @@ public final class MarkTest {
 
     private static void holdsAll() {
         ThirstHours x = CHECK.withPost(POST);
+        x.mark(0, false);
         x.mark(1, false);
         final int[] first = all(x);
         x.go(0, 1);
@@ -97,6 +99,28 @@ public final class MarkTest {
         for (int i = 0; i < 4; i++) {
             CHECK.due("a POST takes the MARKS", x.mark(i, true), false);
         }
+    }
+
+    /** What is SAID, TOLD and read behind a MARK comes in the place of what stood there. */
+    private static void holdsWhatIsHeard() {
+        ThirstHours x = CHECK.withPost(POST);
+        x.mark(0, false);
+        x.say(0, 5, 2);
+        x.tell(3, 9);
+        Check.readDays(x, "hour 3;steal c 9;pour e c 1;");
+        x.mark(1, false);
+        final int[] second = all(x);
+        x.mark(0, true);
+        CHECK.dueRow("nothing is heard", new int[] {x.count(8), x.count(9), x.count(10)}, 0, 0, 0);
+        x.say(0, 70, 9);
+        x.tell(1, 2);
+        Check.readDays(x, "draw e 1;go e b;draw e 50;");
+        x.mark(2, false);
+        final int[] third = all(x);
+        x.mark(1, true);
+        CHECK.dueRow("as at the second", all(x), second);
+        x.mark(2, true);
+        CHECK.dueRow("as at the third", all(x), third);
     }
 
     private static void fourOfThem() {

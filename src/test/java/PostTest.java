@@ -9,6 +9,7 @@ public final class PostTest {
         allThatIsAllowed(check);
         beginsAnew(check);
         staysWithFault(check);
+        nothingIsLeft(check);
         check.end();
     }
 
@@ -101,6 +102,28 @@ public final class PostTest {
         check.due("heat and thirst are forgotten", Check.readPost(x,
                 "place a well 0;clock c plain at a holds 9 has 9 sips 3;"), 0);
         check.due("THIRST", x.timer(0, 7), 3);
+    }
+
+    /** What was told in POSTs before, good or faulty, is not told in a later one. */
+    private static void nothingIsLeft(Check check) {
+        String rich = "place a well 5;place b well 5;place c well 5;place d well 5;way a b 1;way b c 1;way a c 9;"
+                + "clock k milk at b holds 9 has 9 sips 9;person e at b sips 9 has 9;work w by e clock k hour 1 pays 1;"
+                + "heat 0 to 23 9;thirst 7;";
+        String poor = "place a well 1;place b well 2;clock k old at a holds 8 has 7 sips 6;";
+        ThirstHours x = new ThirstHours();
+        for (int i = 0; i < 3; i++) {
+            check.due("rich", Check.readPost(x, rich), 0);
+            check.due("rich again", Check.readPost(x, rich), 0);
+            check.due("rich with a FAULT", Check.readPost(x, rich + "#"), rich.length() * 16 + 1);
+            check.due("poor", Check.readPost(x, poor), 0);
+            check.due("no way", x.way(0, 1), -1);
+            check.due("THIRST", x.timer(0, 7), 6);
+            check.due("an old NAME", Check.readDays(x, "go e a;"), 3 * 16 + 2);
+            check.due("rich", Check.readPost(x, rich), 0);
+            check.due("poor and a way", Check.readPost(x, poor + "way b a 3;place c well 3;thirst base+1;"), 0);
+            check.dueRow("ways", new int[] {x.way(0, 1), x.way(0, 2), x.way(1, 2)}, 3, -1, -1);
+            check.due("THIRST", x.timer(0, 7), 7);
+        }
     }
 
     private static void staysWithFault(Check check) {

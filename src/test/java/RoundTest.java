@@ -41,6 +41,8 @@ public final class RoundTest {
         round(CHECK.withPost(ways + clock("k", "c", 9) + clock("l", "c", 4)), 0);
         round(CHECK.withPost(ways + clock("k", "c", 4) + clock("l", "c", 9)), 0);
         round(CHECK.withPost(ways + clock("k", "d", 200)), 0);
+        round(CHECK.withPost(ways + clock("k", "a", 0) + clock("l", "a", 5)), 0, 0, 0);
+        round(CHECK.withPost(ways + clock("k", "a", 0) + clock("l", "a", 5)), 1);
     }
 
     private static void equalOrders() {

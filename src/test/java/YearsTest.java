@@ -5,6 +5,7 @@ public final class YearsTest {
     public static void main(String[] args) {
         wholeYears();
         fromNow();
+        oneClock();
         still();
         edges();
         CHECK.end();
@@ -89,6 +90,18 @@ public final class YearsTest {
         CHECK.dueRow("paid and DRY", new int[] {x.count(7), x.person(1, 3)}, 7, 3);
         CHECK.dueRow("years from now", years(x, 7, 3), 11, 3, 0);
         CHECK.dueRow("years from now", years(x, 7, 400), 11, 400, 0);
+    }
+
+    /** The thief comes to one CLOCK, too, and draws once more for it; he takes the lesser half. */
+    private static void oneClock() {
+        for (int seed = 0; seed < 60; seed++) {
+            ThirstHours x = CHECK.withPost("place a well 9;clock k plain at a holds 9 has 3 sips 2;thirst base*(shown=0);");
+            drawn = seed;
+            int lot = drawBelow(20);
+            CHECK.due("years(" + seed + ", 1, 2)", x.years(seed, 1, 2), 0);
+            ThirstHours y = CHECK.withPost("place a well 9;clock k plain at a holds 9 has 3 sips 3;");
+            CHECK.due("years(" + seed + ", 1, 2)", y.years(seed, 1, 2), lot == 1 ? 1 : 0);
+        }
     }
 
     /** Each CLOCK that stands still at last counts one. */
