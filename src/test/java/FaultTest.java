@@ -44,6 +44,7 @@ public final class FaultTest {
         tooMany();
         expressions();
         daysFaults();
+        fullTapes();
         CHECK.end();
     }
 
@@ -226,6 +227,23 @@ public final class FaultTest {
         good("thirst not(not(1));");
         thirst(5, "not(not(not ^1))");
         good("thirst (1)+(1)+(1)+(1)+(1)+(1)+not not 1;");
+    }
+
+    /** A token ends with the TAPE, be it full or shorter than one before. */
+    private static void fullTapes() {
+        String blanks = " ".repeat(995);
+        post(1, blanks + "place^");
+        post(1, " ".repeat(986) + "place a well 1^");
+        post(1, blanks + "^abcde");
+        post(1, blanks + "^12345");
+        ThirstHours x = new ThirstHours();
+        CHECK.due("a long WORD", Check.readPost(x, "placeplace"), 1);
+        CHECK.due("a short one", Check.readPost(x, "place"), 5 * 16 + 1);
+        CHECK.due("a long NUMBER", Check.readPost(x, "heat 12345 to 2 2;"), 5 * 16 + 1);
+        CHECK.due("a short one", Check.readPost(x, "heat 123"), 5 * 16 + 4);
+        CHECK.due("a shorter one", Check.readPost(x, "heat 1"), 6 * 16 + 1);
+        CHECK.due("DAYS", Check.readDays(x, "hour 2222"), 5 * 16 + 4);
+        CHECK.due("a shorter one", Check.readDays(x, "hour 2"), 6 * 16 + 1);
     }
 
     private static void daysFaults() {

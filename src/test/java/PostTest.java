@@ -123,6 +123,14 @@ public final class PostTest {
             check.due("poor and a way", Check.readPost(x, poor + "way b a 3;place c well 3;thirst base+1;"), 0);
             check.dueRow("ways", new int[] {x.way(0, 1), x.way(0, 2), x.way(1, 2)}, 3, -1, -1);
             check.due("THIRST", x.timer(0, 7), 7);
+            for (int k = 0; k < 3; k++) {
+                check.due("a longer law", Check.readPost(x, poor + "thirst not not not not base+1;"), 0);
+                check.due("THIRST", x.timer(0, 7), 2);
+            }
+            for (int k = 0; k < 3; k++) {
+                check.due("a shorter law", Check.readPost(x, poor + "thirst base;"), 0);
+                check.due("THIRST", x.timer(0, 7), 6);
+            }
         }
     }
 
