@@ -9,6 +9,16 @@ final class Check {
     /** Stands for the exception of rests. */
     static final int THROWN = -77;
 
+    /** As many PLACES, CLOCKS, PEOPLE and works as can be told, no two alike. */
+    static final String FULL = "place a well 10;place b well 20;place c well 30;place d well 40;place e well 50;"
+            + "clock f plain at a holds 11 has 1 sips 1;clock g old at b holds 12 has 2 sips 2;"
+            + "clock h milk at c holds 13 has 3 sips 3;clock i dew at d holds 14 has 4 sips 4;"
+            + "clock j plain at e holds 15 has 5 sips 5;clock k old at a holds 16 has 6 sips 6;"
+            + "person l at a sips 1 has 1;person m at b sips 2 has 2;person n at c sips 3 has 3;person o at d sips 4 has 4;"
+            + "work p by l clock f hour 1 pays 1;work q by m clock g hour 2 pays 2;work r by n clock h hour 3 pays 3;"
+            + "work s by o clock i hour 4 pays 4;work t by l clock j hour 5 pays 5;work u by l clock k hour 6 pays 6;"
+            + "way a b 1;way b c 1;way c d 1;way d e 1;";
+
     private static final String RICH = "place a well 50;place b well 900;place c well 0;way a b 2;way b c 3;"
             + "clock k plain at a holds 30 has 20 sips 1;clock l old at b holds 500 has 300 sips 2;"
             + "clock m milk at c holds 99 has 60 sips 3;clock n dew at a holds 9 has 4 sips 2;"
@@ -130,6 +140,50 @@ final class Check {
         x.hours(1);
         feed(x, "place");
         return x;
+    }
+
+    static final int ALL_DEEDS = 16;
+
+    /** FULL, with works that can all be done in the first hours. */
+    static String all() {
+        return FULL.replaceAll("hour [1-6]", "hour 1");
+    }
+
+    /** One of the deeds that together change all that can change of all(), when they are done in turn. */
+    static int deed(ThirstHours x, int deed) {
+        switch (deed) {
+            case 0: return x.draw(0, 5);
+            case 1: return x.draw(1, 6);
+            case 2: return x.draw(2, 7);
+            case 3: return x.draw(3, 8);
+            case 4: return x.pour(0, 0, 2);
+            case 5: return x.pour(1, 1, 2);
+            case 6: return x.pour(2, 2, 2);
+            case 7: return x.pour(3, 3, 2);
+            case 8: return x.hours(1);
+            case 9: return x.steal(1, 1);
+            case 10: return x.go(3, 4);
+            case 11: return x.draw(3, 9);
+            case 12: return x.go(2, 1);
+            case 13: return x.hours(4);
+            case 14: return x.go(0, 1);
+            default: return x.go(1, 2);
+        }
+    }
+
+    /** All that can change by deeds: what CLOCKS have, show, if they stand still; PEOPLE, wells, works. */
+    static int[] changing(ThirstHours x) {
+        List<Integer> all = new ArrayList<>();
+        for (int i = 0; i < 6; i++) {
+            all.addAll(List.of(x.timer(i, 3), x.timer(i, 5), x.timer(i, 6), x.work(i, 4)));
+        }
+        for (int i = 0; i < 4; i++) {
+            all.addAll(List.of(x.person(i, 0), x.person(i, 2), x.person(i, 3)));
+        }
+        for (int i = 0; i < 5; i++) {
+            all.add(x.well(i));
+        }
+        return row(all);
     }
 
     static int rests(ThirstHours x, int one, int other, int what) {

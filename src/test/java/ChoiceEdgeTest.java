@@ -10,6 +10,7 @@ public final class ChoiceEdgeTest {
         siegeMilk();
         siegeLastHour();
         siegeEqualOnes();
+        siegeOfAll();
         siegeWhats();
         siegeWithNothing();
         sayShown();
@@ -25,6 +26,7 @@ public final class ChoiceEdgeTest {
         roundInTime();
         roundWithin240();
         roundFirstOrder();
+        roundWithoutWay();
         roundNothingToDo();
         roundBeyond();
         roundWho();
@@ -129,6 +131,31 @@ public final class ChoiceEdgeTest {
         siege(CHECK.withPost(three + "work v by f clock l hour 1 pays 5;work w by e clock l hour 1 pays 5;"), 2, 5, 2, 1);
         siege(CHECK.withPost(three + "work v by f clock l hour 1 pays 0;"), 9999, 0, 0, 0);
         siege(CHECK.withPost(three + "work v by f clock l hour 1 pays 1;"), 9999, 1, 2, 2);
+    }
+
+    /** As many CLOCKS, PEOPLE and works as can be told, each kept alone, all but one, or all. */
+    private static void siegeOfAll() {
+        StringBuilder text = new StringBuilder("place a well 0;");
+        for (int c = 0; c < 6; c++) {
+            text.append("clock ").append((char) ('a' + c)).append("c plain at a holds 9 has 9 sips ").append(c == 5 ? 1 : 2)
+                    .append(';');
+        }
+        for (int p = 0; p < 4; p++) {
+            text.append("person ").append((char) ('a' + p)).append("p at a sips ").append(p == 3 ? 1 : 2).append(" has 9;");
+        }
+        for (int w = 0; w < 6; w++) {
+            text.append("work ").append((char) ('a' + w)).append("w by ").append((char) ('a' + Math.min(w, 3))).append("p clock ")
+                    .append((char) ('a' + w)).append("c hour ").append(w + 1).append(" pays 10;");
+        }
+        ThirstHours x = CHECK.withPost(text.toString());
+        siege(x, 0, 0, 0, 0);
+        siege(x, 4, 10, 1, 1);
+        siege(x, 3, 0, 0, 0);
+        int clocks = 2 * (1 + 2 + 3 + 4 + 5) + 6;
+        int people = 2 * (1 + 2 + 3) + 6;
+        siege(x, clocks + people, 60, 63, 15);
+        siege(x, clocks + people - 1, 50, 31, 15);
+        siege(x, 9999, 60, 63, 15);
     }
 
     /** "NONE: others". */
@@ -309,6 +336,18 @@ public final class ChoiceEdgeTest {
         round(more + thirsty("k", "c", 4) + thirsty("l", "b", 99), 5, 2, 1);
         round(more + thirsty("k", "c", 5) + thirsty("l", "b", 99), 5, 1, 2);
         round(thirsty("k", "a", 99) + thirsty("l", "c", 99), 5, 0, 2);
+    }
+
+    /** "by the shortest ways": to a PLACE of the order none leads; one whose CLOCKS do not stop he need not come to. */
+    private static void roundWithoutWay() {
+        String far = "place d well 0;";
+        round(far + thirsty("k", "d", 240));
+        round(far + thirsty("k", "b", 240) + thirsty("l", "d", 240));
+        round(far + thirsty("k", "a", 240) + thirsty("l", "d", 240));
+        round(far + thirsty("k", "b", 240) + thirsty("l", "d", 0));
+        round(far + thirsty("k", "b", 240) + thirsty("l", "d", 241), 2, 1);
+        round(far + thirsty("k", "b", 240) + thirsty("l", "c", 240) + thirsty("m", "d", 240));
+        round(far + thirsty("k", "b", 2) + thirsty("l", "c", 5) + thirsty("m", "d", 5));
     }
 
     private static void roundNothingToDo() {

@@ -116,7 +116,24 @@ public final class DaysEdgeTest {
         CHECK.dueRow("40, the last of which can't be", new int[] {x.count(8), x.judged(0)}, 40, 39);
         bad(5, "hour 1;".repeat(40) + "^hour 1;");
         bad(5, "hour 1;".repeat(40) + "^pour");
+        fortieth("hour 3;", 5);
+        fortieth("draw f 9;", 2);
+        fortieth("pour f l 4;", 2);
+        fortieth("go f c;", 5);
+        fortieth("steal m 99;", 2);
         CHECK.due("blanks behind 40", with("hour 1;".repeat(40) + " \n ").count(8), 40);
+    }
+
+    /** What the 40th line tells can be, by other ones than the first PERSON, CLOCK and PLACE, by which it can't. */
+    private static void fortieth(String line, int paid) {
+        String post = "place a well 0;place b well 99;place c well 0;way b c 3;clock k plain at a holds 9 has 0 sips 0;"
+                + "clock l plain at b holds 99 has 20 sips 5;person e at a sips 0 has 0;person f at b sips 0 has 50;"
+                + "clock m plain at b holds 99 has 99 sips 0;"
+                + "work u by f clock m hour 37 pays 2;work v by f clock m hour 42 pays 3;";
+        ThirstHours x = CHECK.withPost(post);
+        CHECK.due("39 and " + line, Check.readDays(x, "hour 1;".repeat(39) + line), 0);
+        CHECK.dueRow("judged 39 and " + line, new int[] {x.count(8), x.judged(0), x.judged(1), x.judged(2)},
+                40, -1, -1, paid);
     }
 
     /** Without a POST there are no NAMES. */

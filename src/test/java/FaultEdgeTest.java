@@ -33,6 +33,9 @@ public final class FaultEdgeTest {
         notWithinFive();
         eachPlaceOfPost();
         eachPlaceOfDays();
+        eachOfPostMissing();
+        eachOfDaysMissing();
+        eachTwice();
         postStaysByFault();
         daysStayByFault();
         postBeginsAnew();
@@ -202,6 +205,88 @@ public final class FaultEdgeTest {
             }
             CHECK.due("days() of " + text, Check.readDays(CHECK.withPost(HERE), text.toString()), 1 + 16 * at);
         }
+    }
+
+    private static String without(String[] tokens, int dropped) {
+        StringBuilder text = new StringBuilder();
+        for (int i = 0; i < tokens.length; i++) {
+            text.append(i == dropped ? "" : tokens[i] + " ");
+        }
+        return text.toString();
+    }
+
+    private static int lengthAhead(String[] tokens, int many) {
+        int length = 0;
+        for (int i = 0; i < many; i++) {
+            length += tokens[i].length() + 1;
+        }
+        return length;
+    }
+
+    /**
+     * Each token left out: what is behind it, or the end, can't stand there; where two of a sort follow each
+     * other, what is behind the second.
+     */
+    private static void eachOfPostMissing() {
+        String[] tokens = tokens(HERE.substring(0, HERE.indexOf("thirst")));
+        for (int i = 0; i < tokens.length; i++) {
+            boolean ofTwo = i > 0 && tokens[i - 1].equals("way") || tokens[i].equals("3");
+            String text = without(tokens, i);
+            int at = lengthAhead(tokens, i) + (ofTwo ? 2 : 0);
+            CHECK.due("post() of " + text, Check.readPost(new ThirstHours(), text), 1 + 16 * at);
+        }
+        bad(1, "clock z ^at b holds 1 has 1 sips 1;");
+        for (String kind : new String[] {"plain", "old", "milk", "dew"}) {
+            bad(1, "clock z " + kind + " at b holds 1 has 1 sips 1;clock y ^at b holds 1 has 1 sips 1;");
+        }
+        bad(1, "way a ^1;");
+        bad(1, "way ^1;");
+        bad(1, "place z well 9;way a z^;");
+        bad(1, "place z well 9^place y well 9;");
+        bad(1, "^;");
+        bad(1, "place z well 9;^;");
+    }
+
+    /** What is behind the missing one is a NAME of none there, if it is one. */
+    private static void eachOfDaysMissing() {
+        String[] tokens = tokens(DAYS);
+        for (int i = 0; i < tokens.length; i++) {
+            int kind = i > 0 && (tokens[i - 1].equals("pour") || tokens[i - 1].equals("go")) ? 2 : 1;
+            String text = without(tokens, i);
+            CHECK.due("days() of " + text, Check.readDays(CHECK.withPost(HERE), text), kind + 16 * lengthAhead(tokens, i));
+        }
+        badDays(1, "^;");
+        badDays(1, "hour 1;^;");
+        badDays(1, "hour 1^hour 1;");
+    }
+
+    private static String twice(String[] tokens, int doubled) {
+        StringBuilder text = new StringBuilder();
+        for (int i = 0; i < tokens.length; i++) {
+            text.append(tokens[i]).append(' ').append(i == doubled ? tokens[i] + " " : "");
+        }
+        return text.toString();
+    }
+
+    /** Each token twice: the second one can't stand there, or is a NAME that is wrong there. */
+    private static void eachTwice() {
+        String[] tokens = tokens(HERE.substring(0, HERE.indexOf("heat")));
+        for (int i = 0; i < tokens.length; i++) {
+            String text = twice(tokens, i);
+            int kind = i > 0 && tokens[i - 1].equals("way") ? 3 : 1;
+            CHECK.due("post() of " + text, Check.readPost(new ThirstHours(), text), kind + 16 * lengthAhead(tokens, i + 1));
+        }
+        String[] days = tokens(DAYS);
+        for (int i = 0; i < days.length; i++) {
+            String text = twice(days, i);
+            int kind = i > 0 && (days[i - 1].equals("pour") || days[i - 1].equals("go")) ? 2 : 1;
+            CHECK.due("days() of " + text, Check.readDays(CHECK.withPost(HERE), text), kind + 16 * lengthAhead(days, i + 1));
+        }
+        bad(1, "heat ^heat");
+        bad(1, "heat 0 ^0");
+        bad(1, "heat 0 to ^to");
+        bad(1, "heat 0 to 3 3 ^1;");
+        bad(1, "heat 0 to 3 1;^;");
     }
 
     /** An object that has lived, with this on its TAPE. */

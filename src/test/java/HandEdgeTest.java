@@ -1,3 +1,5 @@
+import java.util.ArrayList;
+import java.util.List;
 import java.util.function.ToLongFunction;
 
 /** The edges of promises 11 to 15: what hands may do; what can't be changes nothing. */
@@ -20,6 +22,7 @@ public final class HandEdgeTest {
         pourWhatItHolds();
         pourAtHisPlace();
         pourWho();
+        eachForHimself();
         goOneStep();
         goTakesHours();
         goWho();
@@ -29,6 +32,7 @@ public final class HandEdgeTest {
         undoNothing();
         undoEach();
         undoSixteen();
+        undoAllThereIs();
         refusedIsNotUndone();
         onlyTheseAreUndone();
         CHECK.end();
@@ -144,6 +148,34 @@ public final class HandEdgeTest {
         CHECK.refused("pour by nobody", ThirstHours::new, x -> x.pour(0, 0, 1), -1);
     }
 
+    /** What one draws, pours or does is of no other one: his water, his PLACE, his CLOCK. */
+    private static void eachForHimself() {
+        String names = "abcd";
+        StringBuilder text = new StringBuilder();
+        for (int i = 0; i < 4; i++) {
+            text.append("place ").append(names.charAt(i)).append(" well ").append(50 + i).append(';');
+        }
+        for (int i = 0; i < 4; i++) {
+            text.append("clock k").append(names.charAt(i)).append(" plain at ").append(names.charAt(3 - i))
+                    .append(" holds 99 has ").append(20 + i).append(" sips 0;person p").append(names.charAt(i)).append(" at ")
+                    .append(names.charAt(3 - i)).append(" sips 0 has ").append(30 + i).append(";way ").append(names.charAt(i))
+                    .append(' ').append(names.charAt((i + 1) % 4)).append(" 1;");
+        }
+        for (int who = 0; who < 4; who++) {
+            ThirstHours x = CHECK.withPost(text.toString());
+            CHECK.due("draw", x.draw(who, 5), 35 + who);
+            CHECK.due("pour", x.pour(who, who, 7), 27 + who);
+            CHECK.due("steal", x.steal(who, 3), 24 + who);
+            CHECK.due("go", x.go(who, (4 - who) % 4), 1);
+            for (int i = 0; i < 4; i++) {
+                boolean own = i == who;
+                CHECK.dueRow(i + " behind the deeds of " + who, new int[] {x.person(i, 0), x.person(i, 2), x.timer(i, 3),
+                    x.well(3 - i)}, own ? (4 - i) % 4 : 3 - i, 30 + i - (own ? 2 : 0), 20 + i + (own ? 4 : 0),
+                        53 - i - (own ? 5 : 0));
+            }
+        }
+    }
+
     /** "GO to a PLACE by its way"; "NONE: .. no way of one step". */
     private static void goOneStep() {
         CHECK.due("go", Check.lived().go(0, 1), 7);
@@ -230,7 +262,7 @@ public final class HandEdgeTest {
         ToLongFunction<ThirstHours> steal = x -> x.steal(3, 1);
         int[] due = {29, 45, 18, 7, 1};
         int i = 0;
-        for (ToLongFunction<ThirstHours> deed : java.util.List.of(hours, draw, pour, go, steal)) {
+        for (ToLongFunction<ThirstHours> deed : List.of(hours, draw, pour, go, steal)) {
             ThirstHours x = Check.lived();
             CHECK.due("deed " + i, deed.applyAsLong(x), due[i]);
             CHECK.due("one more can be undone", x.count(11), 7);
@@ -259,6 +291,26 @@ public final class HandEdgeTest {
             CHECK.due("draw again", x.draw(0, 1), many - last + 1);
             CHECK.due("what can be undone", x.count(11), 1);
         }
+    }
+
+    /** Sixteen deeds that change all there is of as much as can be told, each undone to just what was ahead of it. */
+    private static void undoAllThereIs() {
+        ThirstHours x = CHECK.withPost(Check.all());
+        List<int[]> ahead = new ArrayList<>();
+        for (int deed = 0; deed < Check.ALL_DEEDS; deed++) {
+            ahead.add(Check.state(x));
+            CHECK.due("deed " + deed, Check.deed(x, deed) >= 0, true);
+        }
+        int[] first = Check.changing(CHECK.withPost(Check.all()));
+        int[] last = Check.changing(x);
+        for (int i = 0; i < first.length; i++) {
+            CHECK.due("the " + i + "th has changed", first[i] != last[i], true);
+        }
+        for (int deed = Check.ALL_DEEDS - 1; deed >= 0; deed--) {
+            CHECK.due("undo of deed " + deed, x.undo(), true);
+            CHECK.dueRow("all ahead of deed " + deed, Check.state(x), ahead.get(deed));
+        }
+        CHECK.same("behind all undone", x, CHECK.withPost(Check.all()));
     }
 
     /** What can't be leaves what can be undone: also when 16 can. */

@@ -46,6 +46,7 @@ public final class HourEdgeTest {
         onlyInTimePays();
         stillOfLastHour();
         hoursAllowed();
+        thirstOfEach();
         timerEdges();
         personEdges();
         workEdges();
@@ -304,20 +305,26 @@ public final class HourEdgeTest {
         }
     }
 
-    private static final int[] FAR = {Integer.MIN_VALUE, Integer.MAX_VALUE, Integer.MIN_VALUE + 1, 1 << 16, -(1 << 16)};
+    /** Promise 5: "THIRST of the next hour", by each CLOCK's own sips, kind and what it shows. */
+    private static void thirstOfEach() {
+        ThirstHours x = CHECK.withPost("place a well 0;clock b plain at a holds 9 has 0 sips 1;"
+                + "clock c old at a holds 99 has 99 sips 2;clock d milk at a holds 99 has 99 sips 4;"
+                + "clock e dew at a holds 99 has 99 sips 3;heat 0 to 23 1;thirst base+hot*kind*10+shown*50;");
+        CHECK.dueRow("THIRST at first", new int[] {x.timer(0, 7), x.timer(1, 7), x.timer(2, 7), x.timer(3, 7)},
+                1, 12, 12, 33);
+        x.hours(1);
+        CHECK.dueRow("behind an hour", new int[] {x.timer(0, 7), x.timer(1, 7), x.timer(2, 7), x.timer(3, 7)},
+                1, 62, 12, 83);
+        x.hours(1);
+        CHECK.dueRow("behind two", new int[] {x.timer(0, 7), x.timer(1, 7), x.timer(2, 7), x.timer(3, 7)},
+                1, 99, 37, 83);
+    }
 
-    private static final String FULL = "place a well 10;place b well 20;place c well 30;place d well 40;place e well 50;"
-            + "clock f plain at a holds 11 has 1 sips 1;clock g old at b holds 12 has 2 sips 2;"
-            + "clock h milk at c holds 13 has 3 sips 3;clock i dew at d holds 14 has 4 sips 4;"
-            + "clock j plain at e holds 15 has 5 sips 5;clock k old at a holds 16 has 6 sips 6;"
-            + "person l at a sips 1 has 1;person m at b sips 2 has 2;person n at c sips 3 has 3;person o at d sips 4 has 4;"
-            + "work p by l clock f hour 1 pays 1;work q by m clock g hour 2 pays 2;work r by n clock h hour 3 pays 3;"
-            + "work s by o clock i hour 4 pays 4;work t by l clock j hour 5 pays 5;work u by l clock k hour 6 pays 6;"
-            + "way a b 1;way b c 1;way c d 1;way d e 1;";
+    private static final int[] FAR = {Integer.MIN_VALUE, Integer.MAX_VALUE, Integer.MIN_VALUE + 1, 1 << 16, -(1 << 16)};
 
     /** Promise 5, what -1 and 8, CLOCK -1 and the one behind the last. */
     private static void timerEdges() {
-        ThirstHours x = CHECK.withPost(FULL);
+        ThirstHours x = CHECK.withPost(Check.FULL);
         CHECK.dueRow("the first", new int[] {x.timer(0, 0), x.timer(0, 1), x.timer(0, 2), x.timer(0, 3), x.timer(0, 4),
             x.timer(0, 5), x.timer(0, 6), x.timer(0, 7)}, 0, 0, 11, 1, 1, 0, 0, 1);
         CHECK.dueRow("the last", new int[] {x.timer(5, 0), x.timer(5, 1), x.timer(5, 2), x.timer(5, 3), x.timer(5, 4),
@@ -332,7 +339,7 @@ public final class HourEdgeTest {
     }
 
     private static void personEdges() {
-        ThirstHours x = CHECK.withPost(FULL);
+        ThirstHours x = CHECK.withPost(Check.FULL);
         CHECK.dueRow("the first", new int[] {x.person(0, 0), x.person(0, 1), x.person(0, 2), x.person(0, 3)}, 0, 1, 1, 0);
         CHECK.dueRow("the last", new int[] {x.person(3, 0), x.person(3, 1), x.person(3, 2), x.person(3, 3)}, 3, 4, 4, 0);
         CHECK.dueRow("others", new int[] {x.person(-1, 0), x.person(4, 0), x.person(0, -1), x.person(0, 4), x.person(3, 4),
@@ -344,7 +351,7 @@ public final class HourEdgeTest {
     }
 
     private static void workEdges() {
-        ThirstHours x = CHECK.withPost(FULL);
+        ThirstHours x = CHECK.withPost(Check.FULL);
         CHECK.dueRow("the first", new int[] {x.work(0, 0), x.work(0, 1), x.work(0, 2), x.work(0, 3), x.work(0, 4)},
                 0, 0, 1, 1, 0);
         CHECK.dueRow("the last", new int[] {x.work(5, 0), x.work(5, 1), x.work(5, 2), x.work(5, 3), x.work(5, 4)},
@@ -358,7 +365,7 @@ public final class HourEdgeTest {
     }
 
     private static void wellEdges() {
-        ThirstHours x = CHECK.withPost(FULL);
+        ThirstHours x = CHECK.withPost(Check.FULL);
         CHECK.dueRow("wells", new int[] {x.well(0), x.well(4), x.well(-1), x.well(5)}, 10, 50, -1, -1);
         for (int far : FAR) {
             CHECK.due("well(" + far + ")", x.well(far), -1);
@@ -369,7 +376,7 @@ public final class HourEdgeTest {
 
     /** Promise 9: "(0: the same); NONE: others, no way". */
     private static void wayEdges() {
-        ThirstHours x = CHECK.withPost(FULL);
+        ThirstHours x = CHECK.withPost(Check.FULL);
         CHECK.dueRow("ways", new int[] {x.way(0, 4), x.way(4, 0), x.way(0, 0), x.way(4, 4), x.way(0, 5), x.way(5, 0),
             x.way(-1, 0), x.way(0, -1), x.way(5, 5), x.way(-1, -1)}, 4, 4, 0, 0, -1, -1, -1, -1, -1, -1);
         for (int far : FAR) {

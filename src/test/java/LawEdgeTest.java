@@ -32,6 +32,7 @@ public final class LawEdgeTest {
         kindEdges();
         shownEdges();
         whatIsSo();
+        oneOrNought();
         lessAndSame();
         fromTheLeft();
         intsWrap();
@@ -186,9 +187,21 @@ public final class LawEdgeTest {
         law("not (8192*8192*64)", 1);
         law("0 and 0", 0);
         law("0 or 0", 0);
-        law("5+not 0", 6);
-        law("5+(7 and 8)", 6);
-        law("5+(0 or 8)", 6);
+    }
+
+    /** "Of not, and, or, < and = comes 1 or 0": just 1, and just 0, though a THIRST below 0 is 0, too. */
+    private static void oneOrNought() {
+        for (String so : new String[] {"not 0", "(7 and 8)", "(7 or 0)", "(0 or 8)", "(7 or 8)", "(1<2)", "(2=2)"}) {
+            law("5+" + so, 6);
+            law("5-" + so, 4);
+            law("5*" + so, 5);
+        }
+        for (String not : new String[] {"not 7", "(0 and 8)", "(7 and 0)", "(0 and 0)", "(0 or 0)", "(2<1)", "(1<1)",
+            "(1=2)", "(2=1)"}) {
+            law("5+" + not, 5);
+            law("5-" + not, 5);
+            law("not " + not, 1);
+        }
     }
 
     private static void lessAndSame() {

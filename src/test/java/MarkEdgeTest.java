@@ -14,6 +14,9 @@ public final class MarkEdgeTest {
         backAndOnAgain();
         layOver();
         marksHoldAll();
+        marksHoldAllThereIs();
+        marksHoldAllHeard();
+        marksHoldAllLines();
         marksForgetWithPost();
         marksStayByFault();
         countWhats();
@@ -146,6 +149,76 @@ public final class MarkEdgeTest {
         CHECK.dueRow("all", Check.state(x), due);
         CHECK.due("one that was laid at first", x.mark(1, true), true);
         CHECK.dueRow("hour, lines, SAID, TOLD", new int[] {x.count(5), x.count(8), x.count(9), x.count(10)}, 0, 0, 0, 0);
+    }
+
+    /** All there is of as much as can be told, at four times; gone back to in any order. */
+    private static void marksHoldAllThereIs() {
+        ThirstHours x = CHECK.withPost(Check.all());
+        int[][] due = new int[4][];
+        for (int mark = 0; mark < 4; mark++) {
+            Check.readDays(x, "hour 24;".repeat(10 * mark) + "steal k 999;");
+            for (int i = 0; i < 3 * mark; i++) {
+                x.say(i % 6, 10 * i, mark);
+                x.tell(mark, i);
+            }
+            due[mark] = Check.state(x);
+            due[mark][11] = 0;
+            x.mark(mark, false);
+            for (int deed = mark; deed < Check.ALL_DEEDS; deed += mark == 0 ? 5 : 1) {
+                Check.deed(x, deed);
+            }
+        }
+        for (int mark : new int[] {3, 0, 2, 1, 3, 1, 2, 0}) {
+            CHECK.due("back to " + mark, x.mark(mark, true), true);
+            CHECK.dueRow("all of MARK " + mark, Check.state(x), due[mark]);
+        }
+    }
+
+    private static void hear(ThirstHours x, int heat, int drunk) {
+        for (int i = 0; i < 10; i++) {
+            x.say(0, i < 9 ? 100 : 100 + heat, i < 9 ? 90 : heat);
+        }
+        for (int i = 0; i < 12; i++) {
+            x.tell(i < 11 ? 0 : heat, i < 11 ? 5 : drunk);
+        }
+    }
+
+    /** Ten SAID and twelve TOLD, each to the last one, though others come in their stead. */
+    private static void marksHoldAllHeard() {
+        ThirstHours x = CHECK.withPost("place a well 0;clock k plain at a holds 9 has 0 sips 0;");
+        x.mark(0, false);
+        hear(x, 1, 8);
+        x.mark(1, false);
+        x.mark(0, true);
+        hear(x, 2, 13);
+        x.mark(2, false);
+        for (int mark : new int[] {1, 2, 0, 2, 1, 1}) {
+            x.mark(mark, true);
+            CHECK.dueRow("heard by MARK " + mark, new int[] {x.count(9), x.count(10), x.truth(0), x.truth(1), x.laws(0),
+                x.laws(1)}, mark == 0 ? new int[] {0, 0, 1099, 0, 100, 0}
+                : new int[] {10, 12, 1 + 2 * mark, 100, 1, mark == 1 ? 53 : 54});
+        }
+    }
+
+    /** Forty lines of DAYS, each to the last one, though others come in their stead. */
+    private static void marksHoldAllLines() {
+        ThirstHours x = CHECK.withPost("place a well 9;place b well 9;way a b 1;clock k plain at a holds 9 has 0 sips 9;"
+                + "clock l plain at b holds 9 has 5 sips 9;person e at b sips 0 has 3;person f at a sips 0 has 2;");
+        String[] lasts = {"steal l 5;", "steal l 6;", "pour e l 3;", "pour e l 4;", "draw f 8;", "go f b;", "go f a;",
+            "steal k 5;", "pour f l 3;", "draw e 10;"};
+        int[] due = {-1, 39, -1, 39, -1, -1, 39, 39, 39, 39};
+        for (int i = 0; i < lasts.length; i++) {
+            for (int j = 0; j < lasts.length; j++) {
+                CHECK.due("DAYS", Check.readDays(x, "draw f 1;" + "go e a;go e b;".repeat(19) + lasts[i]), 0);
+                x.mark(1, false);
+                Check.readDays(x, "hour 1;".repeat(39) + lasts[j]);
+                x.mark(2, false);
+                x.mark(1, true);
+                CHECK.dueRow("forty lines, the last of which is " + lasts[i], new int[] {x.count(8), x.judged(0)}, 40, due[i]);
+                x.mark(2, true);
+                CHECK.dueRow("forty lines, the last of which is " + lasts[j], new int[] {x.count(8), x.judged(0)}, 40, due[j]);
+            }
+        }
     }
 
     /** A POST that is good leaves no MARK. */

@@ -46,7 +46,9 @@ public final class PostEdgeTest {
         keptWords();
         factsAreNames();
         noTwoAlike();
+        lastNamesAreTold();
         numberedAsTold();
+        postsInTurn();
         CHECK.end();
     }
 
@@ -381,6 +383,45 @@ public final class PostEdgeTest {
         CHECK.due("told in the POST before", Check.readPost(x, HERE), 0);
         CHECK.due("told in another way", Check.readPost(x, "place w well 1;clock a old at w holds 1 has 1 sips 1;"
                 + "person c at w sips 1 has 1;work e by c clock a hour 1 pays 1;"), 0);
+    }
+
+    /** The NAMES of the last that can be told are told, too. */
+    private static void lastNamesAreTold() {
+        String all = places(3) + clocks(5).replace("clock ", "clock c") + people(3).replace("person ", "person p")
+                + works(5).replace("work ", "work w");
+        CHECK.due("as many as can be", here(all).count(4), 6);
+        bad(3, places(3) + "clock ^o old at a holds 1 has 1 sips 1;");
+        bad(3, clocks(5) + "place ^q well 1;");
+        bad(3, people(3) + "place ^o well 1;");
+        bad(3, works(5) + "place ^q well 1;");
+        bad(3, works(5) + "person ^q at a sips 1 has 1;");
+        bad(3, works(5) + "clock ^q old at a holds 1 has 1 sips 1;");
+    }
+
+    /** A POST takes nothing over from those before it, on one object: NAMES, ways, heat, thirst. */
+    private static void postsInTurn() {
+        String all = HERE + places(3) + clocks(5).replace("clock ", "clock c") + people(3).replace("person ", "person p")
+                + works(5).replace("work ", "work w");
+        ThirstHours x = new ThirstHours();
+        for (int i = 0; i < 4; i++) {
+            CHECK.due("as many as can be, time " + i, Check.readPost(x, all), 0);
+            CHECK.same("behind it", x, CHECK.withPost(all));
+            Check.readPost(x, all);
+        }
+        String hot = HERE + "way a b 7;heat 0 to 23 9;thirst 50+hot;";
+        String cold = HERE.replace("has 1 sips 1;person", "has 9 sips 3;person");
+        for (int i = 0; i < 4; i++) {
+            CHECK.due("a hot one", Check.readPost(x, hot), 0);
+            CHECK.dueRow("hot", new int[] {x.timer(0, 7), x.way(0, 1), x.count(1)}, 59, 7, 1);
+            for (int j = i; j >= 0; j--) {
+                CHECK.due("a cold one", Check.readPost(x, cold), 0);
+                CHECK.dueRow("cold", new int[] {x.way(0, 1), x.way(1, 0), x.count(1)}, -1, -1, 0);
+                for (int h = 0; h < 24; h++) {
+                    CHECK.due("cold in hour " + h, x.timer(0, 7), 3);
+                    x.hours(1);
+                }
+            }
+        }
     }
 
     /** "numbered as told", whatever is told between. */

@@ -1,4 +1,5 @@
 import java.util.NoSuchElementException;
+import java.util.Random;
 
 /** Promise 29: rests. */
 public final class RestsTest {
@@ -32,6 +33,7 @@ public final class RestsTest {
         between();
         nobody();
         byAll();
+        byAnyPeople();
         moving();
         wrongOnes();
         CHECK.end();
@@ -86,6 +88,30 @@ public final class RestsTest {
                     }
                 }
             }
+        }
+    }
+
+    /** Against all other prices, for people and ways of all sorts. */
+    private static void byAnyPeople() {
+        Random lots = new Random(29);
+        String names = "abcd";
+        for (int i = 0; i < 250; i++) {
+            StringBuilder text = new StringBuilder(TWO).append("place d well 0;");
+            for (int from = 0; from < 4; from++) {
+                for (int to = from + 1; to < 4; to++) {
+                    if (lots.nextInt(3) > 0) {
+                        text.append("way ").append(names.charAt(from)).append(' ').append(names.charAt(to)).append(' ')
+                                .append(1 + lots.nextInt(9)).append(';');
+                    }
+                }
+            }
+            for (int e = lots.nextInt(4); e >= 0; e--) {
+                text.append("person ").append((char) ('e' + e)).append(" at ").append(names.charAt(lots.nextInt(4)))
+                        .append(" sips ").append(lots.nextInt(10)).append(" has 0;");
+            }
+            ThirstHours x = CHECK.withPost(text.toString());
+            all(x, 0, 1, resting(x, 0, 1));
+            all(x, 3, 2, resting(x, 3, 2));
         }
     }
 
