@@ -1,29 +1,18 @@
-import java.util.NoSuchElementException;
 import java.util.Random;
 
 /** Promise 29: rests. */
 public final class RestsTest {
     private static final Check CHECK = new Check();
-    /** Stands for the exception. */
-    private static final int THROWN = -77;
-
-    private static int rests(ThirstHours x, int one, int other, int what) {
-        try {
-            return x.rests(one, other, what);
-        } catch (NoSuchElementException e) {
-            return THROWN;
-        }
-    }
 
     /** How many, each, and nothing behind them. */
     private static void all(ThirstHours x, int one, int other, int... due) {
         String call = "rests(" + one + ", " + other;
-        CHECK.due(call + ", NONE)", rests(x, one, other, -1), due.length);
+        CHECK.due(call + ", NONE)", Check.rests(x, one, other, -1), due.length);
         for (int i = 0; i < due.length; i++) {
-            CHECK.due(call + ", " + i + ")", rests(x, one, other, i), due[i]);
+            CHECK.due(call + ", " + i + ")", Check.rests(x, one, other, i), due[i]);
         }
-        CHECK.due(call + ", " + due.length + ")", rests(x, one, other, due.length), THROWN);
-        CHECK.due(call + ", far)", rests(x, one, other, Integer.MAX_VALUE), THROWN);
+        CHECK.due(call + ", " + due.length + ")", Check.rests(x, one, other, due.length), Check.THROWN);
+        CHECK.due(call + ", far)", Check.rests(x, one, other, Integer.MAX_VALUE), Check.THROWN);
     }
 
     private static final String TWO = "place a well 0;place b well 0;place c well 0;";
@@ -47,10 +36,10 @@ public final class RestsTest {
         ThirstHours y = CHECK.withPost(TWO + "way a b 9;person e at a sips 2 has 0;person f at b sips 1 has 0;");
         all(y, 0, 1, 99);
         ThirstHours z = CHECK.withPost(TWO + "person e at c sips 2 has 0;");
-        CHECK.due("nowhere without a way", rests(z, 0, 1, -1), 100);
-        CHECK.due("the least first", rests(z, 0, 1, 0), 0);
-        CHECK.due("the last", rests(z, 0, 1, 99), 99);
-        CHECK.due("beyond the last", rests(z, 0, 1, 100), THROWN);
+        CHECK.due("nowhere without a way", Check.rests(z, 0, 1, -1), 100);
+        CHECK.due("the least first", Check.rests(z, 0, 1, 0), 0);
+        CHECK.due("the last", Check.rests(z, 0, 1, 99), 99);
+        CHECK.due("beyond the last", Check.rests(z, 0, 1, 100), Check.THROWN);
     }
 
     /** All who could buy at either, at equal hours: the first one has them at equal prices. */
@@ -65,9 +54,9 @@ public final class RestsTest {
 
     private static void nobody() {
         ThirstHours x = CHECK.withPost(TWO);
-        CHECK.due("nobody buys", rests(x, 2, 1, -1), 100);
+        CHECK.due("nobody buys", Check.rests(x, 2, 1, -1), 100);
         ThirstHours y = CHECK.withPost(TWO + "way a b 3;person e at a sips 0 has 0;");
-        CHECK.due("nobody drinks", rests(y, 0, 1, -1), 100);
+        CHECK.due("nobody drinks", Check.rests(y, 0, 1, -1), 100);
     }
 
     /** Against all other prices, one by one. */
@@ -160,12 +149,12 @@ public final class RestsTest {
         ThirstHours x = CHECK.withPost(TWO + "way a b 3;person e at a sips 1 has 0;");
         int[] far = {-1, 3, Integer.MIN_VALUE, Integer.MAX_VALUE};
         for (int place : far) {
-            CHECK.due("rests(" + place + ", 0, NONE)", rests(x, place, 0, -1), THROWN);
-            CHECK.due("rests(0, " + place + ", NONE)", rests(x, 0, place, -1), THROWN);
+            CHECK.due("rests(" + place + ", 0, NONE)", Check.rests(x, place, 0, -1), Check.THROWN);
+            CHECK.due("rests(0, " + place + ", NONE)", Check.rests(x, 0, place, -1), Check.THROWN);
         }
-        CHECK.due("the same", rests(x, 1, 1, -1), THROWN);
-        CHECK.due("what -2", rests(x, 0, 1, -2), THROWN);
-        CHECK.due("what far", rests(x, 0, 1, Integer.MIN_VALUE), THROWN);
-        CHECK.due("no PLACES", rests(new ThirstHours(), 0, 1, -1), THROWN);
+        CHECK.due("the same", Check.rests(x, 1, 1, -1), Check.THROWN);
+        CHECK.due("what -2", Check.rests(x, 0, 1, -2), Check.THROWN);
+        CHECK.due("what far", Check.rests(x, 0, 1, Integer.MIN_VALUE), Check.THROWN);
+        CHECK.due("no PLACES", Check.rests(new ThirstHours(), 0, 1, -1), Check.THROWN);
     }
 }
