@@ -23,7 +23,7 @@ public final class ShapeTest {
     public static void main(String[] args) throws IOException {
         face();
         insides();
-        source(Files.readAllLines(Path.of(args[0])));
+        source(Files.readAllLines(Path.of("src/main/java/ThirstHours.java")));
         CHECK.end();
     }
 
